@@ -7,7 +7,7 @@ public final class ReefLights {
     private static final int MOST_LIGHTS = 9, MOST_BYTES = 500, MOST_SKY_BYTES = 200, MOST_SKY_CLAUSES = 30;
     private static final int MOST_NIGHTS = 12, DAYS_OF_A_NIGHT = 10, MOST_SAYINGS = 12, MOST_PAGES = 40;
     private static final int MOST_ROUND = 4, MOST_GO = 200, MOST_LASTS = 400, MOST_COMES = 60, MOST_MILES = 99;
-    private static final int IMAGES = 2;
+    private static final int IMAGES = 2, ABOVE_ALL = 2147483647;
     private static final int CANNOT_STAND = 1, BAD_NUMBER = 2, TOO_MANY = 3, NOT_A_HUNDRED = 4;
     private static final long BILLION = 1000000000L;
 
@@ -233,7 +233,7 @@ public final class ReefLights {
             put(needs, l, needOfNights(l, n));
         }
         int best = 0;
-        int leastShips = Integer.MAX_VALUE;
+        int leastShips = ABOVE_ALL;
         for (int set = 0; set < 1 << toldReef.lights; set++) {
             int ships = sumOver(set, toldReef.ships);
             // Sets come by their numbers, so of like ones the first one met is the least.
@@ -1061,6 +1061,10 @@ public final class ReefLights {
             return taken;
         }
 
+        boolean isFillingBy(Reef reef, int sky, int l) {
+            return cargo > 0 && at(oil, l) < at(reef.holds, l) && Math.abs(at(reef.miles, l) - place) <= reef.milesBy(sky);
+        }
+
         private void fillLight(Reef reef, int l) {
             int given = Math.min(cargo, at(reef.holds, l) - at(oil, l));
             cargo -= given;
@@ -1129,8 +1133,8 @@ public final class ReefLights {
         }
 
         void seek(Reef reef, Skies skies, State now, int n) {
-            leastHarm = Integer.MAX_VALUE;
-            leastBreaches = Integer.MAX_VALUE;
+            leastHarm = ABOVE_ALL;
+            leastBreaches = ABOVE_ALL;
             behind[0].copyFrom(now);
             // Only what grows from now on counts.
             behind[0].harm = 0;
@@ -1143,16 +1147,22 @@ public final class ReefLights {
                 return;
             }
             State next = behind[d + 1];
+            int sky = skies.skyOf(behind[d].day);
+            boolean isLast = d + 1 == n;
             for (int aim = NONE; aim < reef.lights; aim++) {
+                // On the last day a goal where nothing is filled is like the harbour, which was tried first.
+                if (isLast && aim != NONE && !behind[d].isFillingBy(reef, sky, aim)) {
+                    continue;
+                }
                 next.copyFrom(behind[d]);
                 next.aim = aim;
-                next.live(reef, skies.skyOf(next.day));
+                next.live(reef, sky);
                 put(row, d, aim);
                 // Harm and breaches never shrink, so a row that is no better by now never will be.
                 if (!isBetter(next)) {
                     continue;
                 }
-                if (d + 1 == n) {
+                if (isLast) {
                     takeRow(next);
                 } else {
                     tryDay(reef, skies, n, d + 1);

@@ -258,6 +258,9 @@ public final class DayTest {
         }
         Due.is("go(200)", x.go(200), 3);
         Due.is("told(5)", x.told(5), 200);
+        ReefLights drifting = Due.of(TWO);
+        Due.is("drift(200)", drifting.drift(200), 3);
+        Due.is("told(5)", drifting.told(5), 200);
         Due.is("go(1)", x.go(1), 3);
         Due.is("told(5)", x.told(5), 201);
         // many days at once are like one by one
@@ -286,14 +289,14 @@ public final class DayTest {
         x.seed(2026);
         long seed = 2026;
         int sky = 0;
-        for (int day = 0; day < 120; day++) {
+        for (int day = 0; day < 440; day++) {
             seed = (seed * 1103515245L + 12345L) % 2147483648L;
             long drawn = seed / 65536 % 100;
             sky = drawn < odds[3 * sky] ? 0 : drawn < odds[3 * sky] + odds[3 * sky + 1] ? 1 : 2;
             Due.is("sky drawn for day " + day, driftedSky(x), sky);
         }
-        Due.is("seed(0) behind 120 draws", x.seed(0), seed);
-        Due.is("told(5)", x.told(5), 120);
+        Due.is("seed(0) behind 440 draws", x.seed(0), seed);
+        Due.is("told(5)", x.told(5), 440);
         // the first draw from seed 0: 12345, below 65536, so 0
         ReefLights first = Due.of("odds 1 99 0 0 0 100 0 0 100;" + MARKS);
         Due.is("drift(1): 0 is below 1", driftedSky(first), 0);
@@ -367,15 +370,18 @@ public final class DayTest {
         String first = Due.allSeen(x);
         Due.is("begin() on day 0", x.begin(), 0);
         Due.same("begin() on day 0", Due.allSeen(x), first);
-        x.goal(1);
+        x.goal(0);
         x.wick(0, true);
         x.keep(0);
-        x.go(6);
+        x.pour(20);
+        x.go(4);
+        Due.is("told(4) ahead of begin()", x.told(4), 1);
+        Due.is("told(13) ahead of begin()", x.told(13) > 0 ? 1 : 0, 1);
         x.say(1, true);
         x.write(1, 38);
         x.seed(99);
         Due.feed(x, "ab");
-        Due.is("begin()", x.begin(), 6);
+        Due.is("begin()", x.begin(), 4);
         long[] due = {2, 15, 40, 90, 0, 0, 0, 0, 2, 1, 5, 0, 0, 0, -1, 0};
         for (int what = 0; what < due.length; what++) {
             Due.is("told(" + what + ") behind begin()", x.told(what), due[what]);
@@ -389,7 +395,7 @@ public final class DayTest {
         Due.is("judge(1): no day is over", x.judge(1), -1);
         Due.is("tear(1): the book stays", x.tear(1), 1);
         Due.is("goBack(0): the image stays", x.goBack(0), 1);
-        Due.is("told(14)", x.told(14), 1);
+        Due.is("told(14)", x.told(14), 0);
         x.begin();
         Due.is("begin() at once", x.begin(), 0);
         x.seed(99);

@@ -101,6 +101,9 @@ public final class TextTest {
         Due.is("told(1) untold again", x.told(1), 20);
         Due.is("odds(0, 0) untold again", x.odds(0, 0), 100);
         Due.is("odds(0, 1) untold again", x.odds(0, 1), 0);
+        x.go(20);
+        Due.is("told(15): hens untold again", x.told(15), 0);
+        Due.is("told(4): hens untold again", x.told(4), 0);
         nine(x);
     }
 
@@ -145,7 +148,7 @@ public final class TextTest {
     private static void faultsOfOne() {
         String[] texts = {"#x;", "#lights plain 1 1 1 1;", "#Light plain 1 1 1 1;", "#;", "#5;", "#12345;", "#,", "boat#", "boat #", "boat   #",
             "boat#;", "boat 1#;", "boat 1 1#", "boat 1 1  #", "boat 1 1#,", "boat 1 1 #1;", "boat 1 1 #12345;", "boat 1 1 #a;", "boat #a 1;",
-            "#bo at 1 1;", "#boatx 1 1;", "#boaT 1 1;", "light#", "light #1", "light #;", "light #plai 1 1 1 1;", "light #plainx 1 1 1 1;",
+            "#bo at 1 1;", "#boatx 1 1;", "#boatz 1 1;", "#boata 1 1;", "#z;", "#boaT 1 1;", "light#", "light #1", "light #;", "light #plai 1 1 1 1;", "light #plainx 1 1 1 1;",
             "#lightplain 1 1 1 1;", "light plain#;", "light plain 1#;", "light plain 1 1#;", "light plain 1 1 1#;", "light plain 1 1 1 1#",
             "light plain 1 1 1 1 #1;", "light plain #gas 1 1 1 1;", "light plain #-1 1 1 1;", "light plain 1#,1 1 1;", "barrel 1;#;",
             "barrel#\t1;", "hens 1#", "hens 1 1#", "night#;", "night #,", "night 1#", "night 1,#", "night 1,#;", "night 1,#,", "night 1 #1;",
@@ -222,13 +225,17 @@ public final class TextTest {
         x.goal(1);
         x.wick(0, true);
         x.seed(77);
-        x.go(3);
+        x.pour(20);
+        x.go(4);
+        Due.is("told(4) ahead of the new reef", x.told(4), 1);
+        Due.reef(x, "boat");
         x.say(3, true);
         x.write(0, 20);
         x.write(4, 20);
         x.keep(0);
         x.keep(1);
         Due.is("reef() anew", Due.reef(x, FIVE), 5);
+        Due.is("fault() of the new reef", x.fault(), -1);
         long[] due = {5, 15, 40, 90, 0, 0, 0, 0, 0, 0, 3, 0, 0, 0, -1, 0};
         for (int what = 0; what < due.length; what++) {
             Due.is("told(" + what + ") of the new reef", x.told(what), due[what]);

@@ -174,6 +174,10 @@ public final class TriedTest {
         Due.is("darken of one part less", x.darken(all - 1, 1), 1);
         Due.is("darken of two nights", x.darken(2 * all, 2), 0);
         Due.is("darken of two nights, one part less", x.darken(2 * all - 1, 2), 1);
+        ReefLights leaky = Due.of("night 10;light leaky 1 90 99 5;light plain 1 1 99 1;");
+        Due.is("darken(98, 1): less than 90 and a tenth of it", leaky.darken(98, 1), 1);
+        Due.is("darken(99, 1)", leaky.darken(99, 1), 2);
+        Due.is("darken(100, 1)", leaky.darken(100, 1), 0);
         x.wick(0, true);
         x.wick(1, true);
         x.wick(2, true);
@@ -331,6 +335,13 @@ public final class TriedTest {
         Due.is("store(0, 9): not yet a night", x.store(0, 9), 0);
         Due.is("store(0, 10): above what it holds", x.store(0, 10), 250000);
         Due.is("store(0, 20)", x.store(0, 20), 635000);
+        ReefLights short1 = Due.of("boat 10 1;night 10;odds 50 30 20 50 30 20 50 30 20;light plain 1 10 9 1;light plain 1 10 0 1;light plain 1 10 19 1;");
+        Due.is("store(0, 0)", short1.store(0, 0), 0);
+        Due.is("store(0, 1): a mile, a night", short1.store(0, 1), 800000);
+        Due.is("store(1, 1)", short1.store(1, 1), 0);
+        Due.is("late(0)", short1.late(0), 1000000);
+        Due.is("late(2)", short1.late(2), 200000);
+        Due.is("store(2, 1)", short1.store(2, 1), 160000);
         Due.is("store(1, 999): there already", x.store(1, 999), 0);
         // 30 - 10 = 20, 2 lost; 18 - 10 = 8, 1 lost; 7 are too few
         Due.is("lasts(2)", x.lasts(2), 2);
