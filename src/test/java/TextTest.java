@@ -101,6 +101,7 @@ public final class TextTest {
         Due.is("told(1) untold again", x.told(1), 20);
         Due.is("odds(0, 0) untold again", x.odds(0, 0), 100);
         Due.is("odds(0, 1) untold again", x.odds(0, 1), 0);
+        Due.is("reef() of nothing again", x.reef(), 0);
         x.go(20);
         Due.is("told(15): hens untold again", x.told(15), 0);
         Due.is("told(4): hens untold again", x.told(4), 0);

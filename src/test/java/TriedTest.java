@@ -47,6 +47,17 @@ public final class TriedTest {
         x.goal(1);
         x.go(1);
         Due.is("told(6) behind the round's first day", x.told(6), 4);
+        // one part of oil, and just the miles of a day: a mile more is too far
+        ReefLights near = Due.of("boat 10 1;barrel 1;night 10;light plain 10 1 1 4;");
+        near.go(1);
+        Due.is("round(1, 0) of just the miles", near.round(1, 0), 0);
+        Due.is("round(1, 2) of just the miles", near.round(1, 2), 0);
+        ReefLights far = Due.of("boat 10 1;barrel 1;night 10;light plain 11 1 1 4;");
+        far.go(1);
+        Due.is("round(1, 0) of a mile more", far.round(1, 0), 4);
+        Due.is("round(1, 2) of a mile more", far.round(1, 2), -1);
+        Due.is("round(2, 0) of a mile more", far.round(2, 0), 4);
+        Due.is("round(2, 2) of a mile more", far.round(2, 2), 0);
     }
 
     private static void roundOfLikeOnes() {
