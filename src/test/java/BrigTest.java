@@ -15,34 +15,34 @@ public final class BrigTest {
     }
 
     private static void saying() {
-        ReefLights x = Due.of(FOUR);
+        Counted x = Due.of(FOUR);
         for (int set : new int[] {16, 17, -1, Integer.MIN_VALUE, Integer.MAX_VALUE}) {
-            Due.refused(x, "say(" + set + ", true)", () -> x.say(set, true), Due.UNKNOWN);
-            Due.refused(x, "say(" + set + ", false)", () -> x.say(set, false), Due.UNKNOWN);
+            Due.is("say(" + set + ", true)", x.say(set, true), Due.UNKNOWN);
+            Due.is("say(" + set + ", false)", x.say(set, false), Due.UNKNOWN);
         }
         for (int i = 1; i <= 12; i++) {
             Due.is("say(" + (i + 3) + ")", x.say(i + 3, i % 2 == 0), i);
             Due.is("told(9)", x.told(9), i);
         }
-        Due.refused(x, "say(1, true) with twelve", () -> x.say(1, true), Due.FULL);
-        Due.refused(x, "say(16, true) with twelve", () -> x.say(16, true), Due.UNKNOWN);
+        Due.is("say(1, true) with twelve", x.say(1, true), Due.FULL);
+        Due.is("say(16, true) with twelve", x.say(16, true), Due.UNKNOWN);
         Due.is("forget()", x.forget(), 12);
         Due.is("forget() again", x.forget(), 0);
         Due.is("told(9)", x.told(9), 0);
         Due.is("say(15, true)", x.say(15, true), 1);
-        ReefLights none = new ReefLights();
+        Counted none = new Counted();
         Due.is("say(0, true) without lights", none.say(0, true), 1);
-        Due.refused(none, "say(1, true) without lights", () -> none.say(1, true), Due.UNKNOWN);
+        Due.is("say(1, true) without lights", none.say(1, true), Due.UNKNOWN);
     }
 
-    private static void outs(ReefLights x, int m, int e, int sets, int inAll, int inSome) {
+    private static void outs(Counted x, int m, int e, int sets, int inAll, int inSome) {
         Due.is("out(" + m + ", " + e + ", 0)", x.out(m, e, 0), sets);
         Due.is("out(" + m + ", " + e + ", 1)", x.out(m, e, 1), inAll);
         Due.is("out(" + m + ", " + e + ", 2)", x.out(m, e, 2), inSome);
     }
 
     private static void outBySayings() {
-        ReefLights x = Due.of(FOUR);
+        Counted x = Due.of(FOUR);
         x.say(3, true);
         // 0 and 1 burnt: only 2 and 3 may be out
         outs(x, 0, 0, 1, 0, 0);
@@ -77,7 +77,7 @@ public final class BrigTest {
     }
 
     private static void outWithoutSayings() {
-        ReefLights x = Due.of(FOUR);
+        Counted x = Due.of(FOUR);
         int[] sets = {1, 4, 6, 4, 1, 0, 0, 0, 0, 0};
         for (int m = 0; m <= 9; m++) {
             outs(x, m, 0, sets[m], m == 4 ? 15 : m < 4 ? 0 : -1, m == 0 ? 0 : m <= 4 ? 15 : -1);
@@ -85,38 +85,38 @@ public final class BrigTest {
         // what is dark by days has no say in it
         x.go(50);
         outs(x, 2, 0, 6, 0, 15);
-        outs(new ReefLights(), 0, 0, 1, 0, 0);
-        outs(new ReefLights(), 1, 12, 0, -1, -1);
+        outs(new Counted(), 0, 0, 1, 0, 0);
+        outs(new Counted(), 1, 12, 0, -1, -1);
     }
 
     private static void outOutside() {
-        ReefLights x = Due.of(FOUR);
+        Counted x = Due.of(FOUR);
         int low = Integer.MIN_VALUE;
         int high = Integer.MAX_VALUE;
         int[][] wrong = {{-1, 0, 0}, {10, 0, 0}, {low, 0, 0}, {high, 0, 0}, {0, -1, 0}, {0, 13, 0}, {0, low, 0}, {0, high, 0},
             {0, 0, -1}, {0, 0, 3}, {0, 0, low}, {0, 0, high}};
         for (int[] row : wrong) {
-            Due.refused(x, "out(" + row[0] + ", " + row[1] + ", " + row[2] + ")", () -> x.out(row[0], row[1], row[2]), Due.OUTSIDE);
+            Due.is("out(" + row[0] + ", " + row[1] + ", " + row[2] + ")", x.out(row[0], row[1], row[2]), Due.OUTSIDE);
         }
     }
 
     private static void writing() {
-        ReefLights x = Due.of(FOUR);
+        Counted x = Due.of(FOUR);
         for (int i = 1; i <= 40; i++) {
             Due.is("write(1, " + i + ")", x.write(1, i % 2 == 0 ? 0 : 99999), i);
         }
-        Due.refused(x, "write(1, 0) behind forty", () -> x.write(1, 0), Due.FULL);
-        Due.refused(x, "write(1, 100000) behind forty", () -> x.write(1, 100000), Due.OUTSIDE);
+        Due.is("write(1, 0) behind forty", x.write(1, 0), Due.FULL);
+        Due.is("write(1, 100000) behind forty", x.write(1, 100000), Due.OUTSIDE);
         Due.is("write(0, 5): books are apart", x.write(0, 5), 1);
         Due.is("write(2, 5)", x.write(2, 5), 1);
         for (int oil : new int[] {-1, 100000, Integer.MIN_VALUE, Integer.MAX_VALUE}) {
-            Due.refused(x, "write(0, " + oil + ")", () -> x.write(0, oil), Due.OUTSIDE);
-            Due.refused(x, "write(4, " + oil + ")", () -> x.write(4, oil), Due.UNKNOWN);
+            Due.is("write(0, " + oil + ")", x.write(0, oil), Due.OUTSIDE);
+            Due.is("write(4, " + oil + ")", x.write(4, oil), Due.UNKNOWN);
         }
         for (int l : new int[] {-1, 4, Integer.MIN_VALUE, Integer.MAX_VALUE}) {
-            Due.refused(x, "write(" + l + ", 0)", () -> x.write(l, 0), Due.UNKNOWN);
-            Due.refused(x, "tear(" + l + ")", () -> x.tear(l), Due.UNKNOWN);
-            Due.refused(x, "judge(" + l + ")", () -> x.judge(l), Due.UNKNOWN);
+            Due.is("write(" + l + ", 0)", x.write(l, 0), Due.UNKNOWN);
+            Due.is("tear(" + l + ")", x.tear(l), Due.UNKNOWN);
+            Due.is("judge(" + l + ")", x.judge(l), Due.UNKNOWN);
         }
         Due.is("tear(1)", x.tear(1), 40);
         Due.is("tear(1) again", x.tear(1), 0);
@@ -126,14 +126,14 @@ public final class BrigTest {
         Due.is("tear(2)", x.tear(2), 1);
     }
 
-    private static void writeAll(ReefLights x, int l, int... oil) {
+    private static void writeAll(Counted x, int l, int... oil) {
         for (int o : oil) {
             x.write(l, o);
         }
     }
 
     private static void judging() {
-        ReefLights x = Due.of(FOUR);
+        Counted x = Due.of(FOUR);
         writeAll(x, 0, 35, 25, 14, 5);
         writeAll(x, 1, 47, 34, 22);
         writeAll(x, 2, 7, 7, 8);
@@ -174,7 +174,7 @@ public final class BrigTest {
     }
 
     private static void judgingFortyDays() {
-        ReefLights x = Due.of("night 10;light plain 1 1 99 1;");
+        Counted x = Due.of("night 10;light plain 1 1 99 1;");
         for (int day = 0; day < 40; day++) {
             x.write(0, day == 39 ? 60 : 98 - day);
         }
@@ -192,7 +192,7 @@ public final class BrigTest {
     }
 
     private static void judgingImages() {
-        ReefLights x = Due.of(FOUR);
+        Counted x = Due.of(FOUR);
         x.go(2);
         x.keep(0);
         x.begin();

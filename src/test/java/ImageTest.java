@@ -12,11 +12,11 @@ public final class ImageTest {
     }
 
     private static void seeding() {
-        ReefLights x = Due.of(REEF);
+        Counted x = Due.of(REEF);
         Due.is("seed(5)", x.seed(5), 0);
         Due.is("seed(most)", x.seed(Integer.MAX_VALUE), 5);
         for (int v : new int[] {-1, Integer.MIN_VALUE}) {
-            Due.refused(x, "seed(" + v + ")", () -> x.seed(v), Due.OUTSIDE);
+            Due.is("seed(" + v + ")", x.seed(v), Due.OUTSIDE);
         }
         x.drift(1);
         Due.is("seed(0) behind a draw from the most", x.seed(0), (2147483647L * 1103515245L + 12345L) % 2147483648L);
@@ -28,72 +28,72 @@ public final class ImageTest {
         }
         Due.is("seed(0) behind three draws", x.seed(0), due);
         // the same seed, the same winter
-        ReefLights a = Due.of(REEF);
-        ReefLights b = Due.of(REEF);
+        Counted a = Due.of(REEF);
+        Counted b = Due.of(REEF);
         a.seed(424242);
         b.seed(424242);
         Due.is("drift(90)", a.drift(90), b.drift(90));
-        Due.same("winters of one seed", Due.allSeen(a), Due.allSeen(b));
+        Due.same("winters of one seed", Due.days(a), Due.days(b));
     }
 
     private static void keeping() {
-        ReefLights x = Due.of(REEF, "fine 2;rough 3;ice 4;");
+        Counted x = Due.of(REEF, "fine 2;rough 3;ice 4;");
         for (int i : new int[] {-1, 2, Integer.MIN_VALUE, Integer.MAX_VALUE}) {
-            Due.refused(x, "keep(" + i + ")", () -> x.keep(i), Due.UNKNOWN);
-            Due.refused(x, "goBack(" + i + ")", () -> x.goBack(i), Due.UNKNOWN);
+            Due.is("keep(" + i + ")", x.keep(i), Due.UNKNOWN);
+            Due.is("goBack(" + i + ")", x.goBack(i), Due.UNKNOWN);
         }
-        Due.refused(x, "goBack(0) not kept", () -> x.goBack(0), Due.NOT);
-        Due.refused(x, "goBack(1) not kept", () -> x.goBack(1), Due.NOT);
+        Due.is("goBack(0) not kept", x.goBack(0), Due.NOT);
+        Due.is("goBack(1) not kept", x.goBack(1), Due.NOT);
         x.goal(2);
         x.wick(1, true);
         x.pour(33);
         x.seed(31);
         x.go(6);
         x.drift(3);
-        String first = Due.allSeen(x);
+        String first = Due.days(x);
         Due.is("keep(0)", x.keep(0), 1);
-        Due.same("keep(0) changes nothing", Due.allSeen(x), first);
-        Due.refused(x, "goBack(1) while only 0 is kept", () -> x.goBack(1), Due.NOT);
+        Due.same("keep(0) changes nothing", Due.days(x), first);
+        Due.is("goBack(1) while only 0 is kept", x.goBack(1), Due.NOT);
         x.goal(-1);
         x.wick(1, false);
         x.wick(0, true);
         x.seed(7);
         x.drift(40);
         Due.is("goBack(0)", x.goBack(0), 1);
-        Due.same("what is so behind goBack(0)", Due.allSeen(x), first);
+        Due.same("what is so behind goBack(0)", Due.days(x), first);
         // what follows is as it would have been, and the image is still there
         int dark = x.drift(20);
-        String later = Due.allSeen(x);
+        String later = Due.days(x);
         Due.is("goBack(0) again", x.goBack(0), 1);
         Due.is("drift(20) again", x.drift(20), dark);
-        Due.same("twenty days again", Due.allSeen(x), later);
+        Due.same("twenty days again", Due.days(x), later);
         x.begin();
         x.goBack(0);
-        Due.same("what is so behind begin() and goBack(0)", Due.allSeen(x), first);
+        Due.same("what is so behind begin() and goBack(0)", Due.days(x), first);
     }
 
     private static void bothImages() {
-        ReefLights x = Due.of(REEF);
+        Counted x = Due.of(REEF);
         x.go(3);
         x.keep(0);
-        String third = Due.allSeen(x);
+        String third = Due.days(x);
         x.go(4);
         x.keep(1);
-        String seventh = Due.allSeen(x);
+        String seventh = Due.days(x);
         x.goBack(0);
-        Due.same("image 0", Due.allSeen(x), third);
+        Due.same("image 0", Due.days(x), third);
         x.goBack(1);
-        Due.same("image 1", Due.allSeen(x), seventh);
+        Due.same("image 1", Due.days(x), seventh);
         x.go(1);
         x.keep(0);
-        String eighth = Due.allSeen(x);
+        String eighth = Due.days(x);
         x.goBack(1);
         x.goBack(0);
-        Due.same("image 0 kept anew", Due.allSeen(x), eighth);
+        Due.same("image 0 kept anew", Due.days(x), eighth);
     }
 
     private static void whatImagesLeave() {
-        ReefLights x = Due.of(REEF, "rough 2;");
+        Counted x = Due.of(REEF, "rough 2;");
         x.keep(0);
         x.say(3, true);
         x.write(0, 1);

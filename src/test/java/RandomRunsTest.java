@@ -2,13 +2,13 @@ import java.util.Random;
 
 /** Random runs of calls, each answer against the second reading of the document in Model. */
 public final class RandomRunsTest {
-    private static final int RUNS = 1500, CALLS = 200;
+    private static final int RUNS = 1500, CALLS = 200, CALLS_OF_TELLING = 16, MOST_OF_ONE_CHECK = 130;
 
     private static final String[] KINDS = {"plain", "double", "leaky", "floating", "gas"};
     private static final String[] SKIES = {"fine", "rough", "ice"};
 
     private final Random random;
-    private final ReefLights x = new ReefLights();
+    private final Counted x = new Counted();
     private final Model model = new Model();
     private final StringBuilder story = new StringBuilder();
     private boolean good = true;
@@ -40,7 +40,8 @@ public final class RandomRunsTest {
             feed(skiesText());
             check("skies()", x.skies(), model.skies());
         }
-        for (int i = 0; i < CALLS && good; i++) {
+        // one more check may feed two texts, and what is told in the end needs calls too
+        for (int i = 0; i < CALLS && good && x.calls() < Counted.MOST_CALLS - MOST_OF_ONE_CHECK - CALLS_OF_TELLING; i++) {
             call();
         }
         for (int what = 0; what <= 15; what++) {
@@ -89,7 +90,7 @@ public final class RandomRunsTest {
     }
 
     private int aLight() {
-        return near(0, Math.max(0, (int) x.told(0) - 1));
+        return near(0, Math.max(0, (int) model.told(0) - 1));
     }
 
     private String sometimesBroken(String text, int oneIn) {
@@ -233,7 +234,7 @@ public final class RandomRunsTest {
                 if (random.nextInt(3) == 0) check("begin()", x.begin(), model.begin());
                 break;
             case 8: {
-                int n = near(1, x.told(0) > 5 ? 2 : x.told(0) > 3 ? 3 : 4), what = near(0, 5);
+                int n = near(1, model.told(0) > 5 ? 2 : model.told(0) > 3 ? 3 : 4), what = near(0, 5);
                 check("round(" + n + ", " + what + ")", x.round(n, what), model.round(n, what));
                 break;
             }
@@ -269,7 +270,7 @@ public final class RandomRunsTest {
     private void lastCall() {
         switch (random.nextInt(10)) {
             case 0: {
-                int set = near(0, (1 << x.told(0)) - 1);
+                int set = near(0, (1 << model.told(0)) - 1);
                 boolean burning = random.nextBoolean();
                 check("say(" + set + ", " + burning + ")", x.say(set, burning), model.say(set, burning));
                 break;
@@ -286,7 +287,7 @@ public final class RandomRunsTest {
                 int l = aLight();
                 int pages = random.nextInt(10) == 0 ? 41 : 1 + random.nextInt(3);
                 for (int i = 0; i < pages; i++) {
-                    int oil = l >= 0 && l < x.told(0) && random.nextInt(6) != 0 ? rightPage(l) : near(0, 99999);
+                    int oil = l >= 0 && l < model.told(0) && random.nextInt(6) != 0 ? rightPage(l) : near(0, 99999);
                     check("write(" + l + ", " + oil + ")", x.write(l, oil), model.write(l, oil));
                 }
                 break;

@@ -29,17 +29,17 @@ public final class RoomTest {
     }
 
     private static void dearestCalls() {
-        ReefLights x = Due.of(NINE, "rough 5;fine 9;ice 3;");
+        Counted x = Due.of(NINE, "rough 5;fine 9;ice 3;");
         callEach(x, 3);
         long before = made();
-        for (int i = 0; i < 10; i++) {
+        for (int i = 0; i < 8; i++) {
             callEach(x, i);
         }
-        long each = (made() - before) / 10;
+        long each = (made() - before) / 8;
         Due.is("bytes that some thirty calls make are below 200 (" + each + ")", each < 200 ? 1 : 0, 1);
     }
 
-    private static void callEach(ReefLights x, int i) {
+    private static void callEach(Counted x, int i) {
         x.feed(8, 0x6261727265_6c2039L);
         x.feed(1, ';');
         x.reef();
@@ -84,15 +84,15 @@ public final class RoomTest {
     private static void wildCalls() {
         for (int run = 0; run < 300; run++) {
             Random random = new Random(run);
-            ReefLights x = run % 3 == 0 ? new ReefLights() : run % 3 == 1 ? Due.of(NINE) : Due.of("boat 1 1;barrel 0;odds 0 0 100 0 0 100 0 0 100;light leaky 99 99 0 99;");
-            for (int i = 0; i < 600; i++) {
+            Counted x = run % 3 == 0 ? new Counted() : run % 3 == 1 ? Due.of(NINE) : Due.of("boat 1 1;barrel 0;odds 0 0 100 0 0 100 0 0 100;light leaky 99 99 0 99;");
+            for (int i = 0; i < 460; i++) {
                 wildCall(x, random);
             }
             Due.is("told(16) is still answered", x.told(16), Due.OUTSIDE);
         }
     }
 
-    private static void wildCall(ReefLights x, Random random) {
+    private static void wildCall(Counted x, Random random) {
         int a = wild(random);
         int b = wild(random);
         int c = wild(random);
