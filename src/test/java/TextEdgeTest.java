@@ -21,6 +21,7 @@ public final class TextEdgeTest {
         skiesAtTwoHundredBytes();
         skiesLeaveTheRest();
         skiesWithFault();
+        nothingOfTheTextAhead();
         faultOfTheLatest();
         tellingAll();
         lightsFirstAndLast();
@@ -214,16 +215,18 @@ public final class TextEdgeTest {
         Due.is("drift(1): rough as it was", z.drift(1), 1);
         Due.is("drift(20): rough as it was", z.drift(20), 1);
         Due.is("light(0, 8)", z.light(0, 8), 22);
-        Due.sentence("what a new reef leaves out is untold again");
+        Due.sentence("what a new reef leaves out is untold again, and stays so with the next ones");
         Counted again = Due.of(REEF);
-        Due.is("reef()", Due.reef(again, "light plain 1 10 99 1;"), 1);
-        Due.tolds("untold again", again, 1, 20, 50, 500);
-        Due.is("odds(0, 0)", again.odds(0, 0), 100);
-        Due.is("odds(1, 2)", again.odds(1, 2), 0);
-        again.go(2);
-        Due.is("told(4)", again.told(4), 0);
-        Due.is("told(15)", again.told(15), 0);
-        Due.is("light(0, 5)", again.light(0, 5), 75);
+        for (int time = 1; time <= 3; time++) {
+            Due.is("reef() " + time, Due.reef(again, "light plain 1 10 99 1;"), 1);
+            Due.tolds("untold again", again, 1, 20, 50, 500);
+            Due.is("odds(0, 0)", again.odds(0, 0), 100);
+            Due.is("odds(1, 2)", again.odds(1, 2), 0);
+            again.go(2);
+            Due.is("told(4)", again.told(4), 0);
+            Due.is("told(15)", again.told(15), 0);
+            Due.is("light(0, 5)", again.light(0, 5), 75);
+        }
     }
 
     // ---- promise 3
@@ -353,10 +356,12 @@ public final class TextEdgeTest {
         Due.is("sky(2969)", x.sky(2969), 2);
         Due.is("sky(2970)", x.sky(2970), 0);
         Due.sentence("Promise 4: THE TEXT becomes SKIES: of the ones ahead nothing is left");
-        Due.is("skies()", Due.skies(x, "rough 1;"), 1);
-        Due.is("sky(0)", x.sky(0), 1);
-        Due.is("sky(1)", x.sky(1), 0);
-        Due.is("sky(99)", x.sky(99), 0);
+        for (int time = 1; time <= 3; time++) {
+            Due.is("skies() " + time, Due.skies(x, "rough 1;"), 1);
+            Due.is("sky(0)", x.sky(0), 1);
+            Due.is("sky(1)", x.sky(1), 0);
+            Due.is("sky(99)", x.sky(99), 0);
+        }
     }
 
     private static void skiesOfNothing() {
@@ -412,6 +417,26 @@ public final class TextEdgeTest {
             Due.is("told(8)", x.told(8), 0);
             Due.same("all behind the FAULT " + number, butTheFault(Due.all(x)), butTheFault(Due.all(lived())));
         }
+    }
+
+    private static void nothingOfTheTextAhead() {
+        Due.sentence("Promises 3, 4: THE TEXT (it is empty then): a shorter one has nothing of the longer one ahead of it");
+        Counted x = new Counted();
+        Due.is("reef()", Due.reef(x, "boat 1 1;barrel 7;"), 0);
+        Due.is("reef() of half of it", Due.reef(x, "boat 1 1"), -11);
+        Due.is("fault()", x.fault(), 8);
+        Due.is("reef() of less of it", Due.reef(x, "boat 1"), -11);
+        Due.is("fault()", x.fault(), 6);
+        Due.is("reef() of a half word", Due.reef(x, "boa"), -11);
+        Due.is("fault()", x.fault(), 0);
+        Due.is("reef() of its first clause", Due.reef(x, "boat 1 1;"), 0);
+        Due.is("told(3)", x.told(3), 500);
+        Due.is("skies()", Due.skies(x, "ice 12;rough 7;"), 19);
+        Due.is("skies() of less of it", Due.skies(x, "ice 12"), -11);
+        Due.is("fault()", x.fault(), 6);
+        Due.is("skies() of still less of it", Due.skies(x, "ice 1"), -11);
+        Due.is("fault()", x.fault(), 5);
+        Due.is("skies() of its first clause", Due.skies(x, "ice 12;"), 12);
     }
 
     // ---- promise 5

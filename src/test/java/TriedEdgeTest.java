@@ -26,6 +26,7 @@ public final class TriedEdgeTest {
         lateMiles();
         lateBehindTheDayAhead();
         lateParted();
+        lateCut();
         storeParts();
         comesDays();
         nothingChanges();
@@ -116,6 +117,14 @@ public final class TriedEdgeTest {
         more.go(1);
         round(more, 2, 6, 1, -1, -1);
         round(more, 3, 6, 1, 0, 0, 0);
+        Due.sentence("THE ROUND with one part of oil, and with none");
+        Counted part = Due.of("boat 10 1;barrel 1;night 10;light plain 10 1 1 3;");
+        part.go(1);
+        round(part, 1, 0, 0, 0);
+        round(part, 2, 3, 0, -1, 0);
+        Counted none = Due.of("boat 10 1;barrel 0;night 10;light plain 10 1 1 3;");
+        none.go(1);
+        round(none, 1, 3, 0, -1);
         Due.sentence("THE ROUND by way of the harbour, when THE BOAT is empty");
         Counted empty = Due.of("boat 10 10;barrel 90;night 10;light plain 10 10 10 3;");
         empty.goal(0);
@@ -507,11 +516,11 @@ public final class TriedEdgeTest {
         String reef = "boat 10 1;night 10;odds 90 10 0 40 50 10 20 30 50;light plain 10 10 20 1;";
         for (int sky = 0; sky < 3; sky++) {
             Counted x = Due.of(reef, sky == 0 ? "fine 9;" : sky == 1 ? "rough 9;" : "ice 9;");
-            Due.is("late(0) on DAY 0, whatever is told for it", x.late(0), parted(x, 10, 2, 0));
+            Due.is("late(0) on DAY 0, whatever is told for it", x.late(0), parted(x, 10, 2));
             x.go(1);
             Due.is("late(0) behind SKY " + sky, x.late(0), sky == 0 ? 100000 : sky == 1 ? 600000 : 800000);
             x.begin();
-            Due.is("late(0) on DAY 0 again", x.late(0), parted(x, 10, 2, 0));
+            Due.is("late(0) on DAY 0 again", x.late(0), parted(x, 10, 2));
         }
         Due.sentence("LATE: SKY of THE DAY ahead as it was: as drawn, when it was drawn");
         Counted y = Due.of("boat 10 1;night 10;odds 0 100 0 0 60 40 0 0 100;light plain 5 10 20 1;", "ice 9;");
@@ -537,39 +546,17 @@ public final class TriedEdgeTest {
         }
     }
 
-    private static int parted(Counted x, int miles, int days) {
-        return parted(x, miles, days, 0);
+    private static void lateCut() {
+        Due.sentence("LATE: told / 1000, cut: 365428999 of a BILLION are 365428 of a MILLION");
+        Counted x = Due.of("boat 10 1;night 10;odds 5 54 41 56 12 32 22 76 2;light plain 40 10 80 1;");
+        Due.is("late(0)", x.late(0), 365428);
+        Due.sentence("COMES: / 1000, cut: 757999999 of a BILLION are 757999 of a MILLION");
+        Counted y = Due.of("odds 76 21 3 85 0 15 56 1 43;");
+        Due.is("comes(0, 0, 39)", y.comes(0, 0, 39), 757999);
     }
 
-    /** The odds that so many miles are not gone in so many days, parted as the document says. */
-    private static int parted(Counted x, int miles, int days, int sky) {
-        int v = (int) x.told(1);
-        int[][] odds = new int[3][3];
-        for (int i = 0; i < 9; i++) {
-            odds[i / 3][i % 3] = x.odds(i / 3, i % 3);
-        }
-        long[][] parts = new long[3][miles + 1];
-        parts[sky][miles] = 1000000000L;
-        for (int d = 0; d < days; d++) {
-            long[][] next = new long[3][miles + 1];
-            for (int s = 0; s < 3; s++) {
-                for (int left = 1; left <= miles; left++) {
-                    long fine = parts[s][left] * odds[s][0] / 100;
-                    long rough = parts[s][left] * odds[s][1] / 100;
-                    next[0][Math.max(0, left - v)] += fine;
-                    next[1][Math.max(0, left - v / 2)] += rough;
-                    next[2][left] += parts[s][left] - fine - rough;
-                }
-            }
-            parts = next;
-        }
-        long sum = 0;
-        for (int s = 0; s < 3; s++) {
-            for (int left = 1; left <= miles; left++) {
-                sum += parts[s][left];
-            }
-        }
-        return (int) (sum / 1000);
+    private static int parted(Counted x, int miles, int days) {
+        return new Parted(x).late(0, miles, days);
     }
 
     // ---- promise 20
@@ -588,6 +575,9 @@ public final class TriedEdgeTest {
         Due.is("store(3, 9)", x.store(3, 9), 0);
         Due.is("store(3, 10): eleven miles in two days", x.store(3, 10), 250000 + 300000);
         Due.is("light(0, 5): nothing is stored", x.light(0, 5), 5);
+        Counted part = Due.of("boat 10 1;night 10;" + ALIKE + "light plain 10 10 9 1;light plain 10 10 10 1;");
+        Due.is("store(0, 1): the one part that it lacks", part.store(0, 1), 500000);
+        Due.is("store(1, 1): a part that it does not need", part.store(1, 1), 0);
         Due.sentence("STORE: LASTS of it with s parts more is 400 at most, too");
         Counted y = Due.of("boat 1 1;night 10;odds 20 0 80 20 0 80 20 0 80;light plain 99 1 1 1;");
         Due.is("store(0, 398)", y.store(0, 398), 1000000 - parted(y, 99, 399));
@@ -618,9 +608,10 @@ public final class TriedEdgeTest {
         Due.sentence("COMES: ODDS of a BILLION parted each DAY, of a MILLION (/ 1000)");
         for (String odds : new String[] {"60 30 10 20 50 30 10 20 70", "33 33 34 13 29 58 7 7 86", "99 1 0 0 99 1 1 0 99"}) {
             Counted y = Due.of("odds " + odds + ";");
+            Parted parted = new Parted(y);
             for (int m : new int[] {2, 3, 59, 60}) {
                 for (int i = 0; i < 9; i++) {
-                    Due.is("comes(" + i / 3 + ", " + i % 3 + ", " + m + ") by " + odds, y.comes(i / 3, i % 3, m), come(odds, i / 3, i % 3, m));
+                    Due.is("comes(" + i / 3 + ", " + i % 3 + ", " + m + ") by " + odds, y.comes(i / 3, i % 3, m), parted.come(i / 3, i % 3, m));
                 }
             }
         }
@@ -633,24 +624,6 @@ public final class TriedEdgeTest {
         for (int i = 0; i < 9; i++) {
             Due.is("comes(" + i / 3 + ", " + i % 3 + ", 60)", w.comes(i / 3, i % 3, 60), i / 3 == i % 3 ? 1000000 : 0);
         }
-    }
-
-    private static long come(String odds, int from, int to, int days) {
-        String[] told = odds.split(" ");
-        long[] parts = new long[3];
-        parts[from] = 1000000000L;
-        for (int d = 0; d < days; d++) {
-            long[] next = new long[3];
-            for (int s = 0; s < 3; s++) {
-                long fine = parts[s] * Integer.parseInt(told[3 * s]) / 100;
-                long rough = parts[s] * Integer.parseInt(told[3 * s + 1]) / 100;
-                next[0] += fine;
-                next[1] += rough;
-                next[2] += parts[s] - fine - rough;
-            }
-            parts = next;
-        }
-        return parts[to] / 1000;
     }
 
     private static Counted lived() {

@@ -308,36 +308,10 @@ public final class TriedTest {
     private static void lateCuts() {
         // odds of a billion are cut day by day, ice takes what is left
         Counted x = Due.of("boat 1 1;night 10;odds 33 33 34 33 33 34 33 33 34;light plain 99 0 0 1;light plain 3 10 60 1;");
-        Due.is("late(0): all 99 miles, but it lasts", x.late(0), bruteLate(33, 33, 1, 99, 400));
-        Due.is("late(1)", x.late(1), bruteLate(33, 33, 1, 3, 6));
+        Due.is("late(0): all 99 miles, but it lasts", x.late(0), new Parted(x).late(0, 99, 400));
+        Due.is("late(1)", x.late(1), new Parted(x).late(0, 3, 6));
         Counted y = Due.of("boat 7 1;night 10;odds 13 29 58 13 29 58 13 29 58;light plain 83 10 250 1;");
-        Due.is("late(0)", y.late(0), bruteLate(13, 29, 7, 83, 25));
-    }
-
-    /** Parted by skies and miles, the odds alike behind each sky. */
-    private static int bruteLate(int fine, int rough, int v, int miles, int days) {
-        long[][] parts = new long[3][miles + 1];
-        parts[0][miles] = 1000000000L;
-        for (int d = 0; d < days; d++) {
-            long[][] next = new long[3][miles + 1];
-            for (int s = 0; s < 3; s++) {
-                for (int m = 1; m <= miles; m++) {
-                    long f = parts[s][m] * fine / 100;
-                    long r = parts[s][m] * rough / 100;
-                    next[0][Math.max(0, m - v)] += f;
-                    next[1][Math.max(0, m - v / 2)] += r;
-                    next[2][m] += parts[s][m] - f - r;
-                }
-            }
-            parts = next;
-        }
-        long sum = 0;
-        for (int s = 0; s < 3; s++) {
-            for (int m = 1; m <= miles; m++) {
-                sum += parts[s][m];
-            }
-        }
-        return (int) (sum / 1000);
+        Due.is("late(0)", y.late(0), new Parted(y).late(0, 83, 25));
     }
 
     private static void storing() {
@@ -356,7 +330,7 @@ public final class TriedTest {
         Due.is("store(1, 999): there already", x.store(1, 999), 0);
         // 30 - 10 = 20, 2 lost; 18 - 10 = 8, 1 lost; 7 are too few
         Due.is("lasts(2)", x.lasts(2), 2);
-        Due.is("store(2, 999)", x.store(2, 999), x.late(2) - bruteLate(50, 30, 10, 20, lastsLeaky(1029)));
+        Due.is("store(2, 999)", x.store(2, 999), x.late(2) - new Parted(x).late(0, 20, lastsLeaky(1029)));
         Due.is("light(0, 5): nothing is stored", x.light(0, 5), 10);
     }
 
