@@ -726,6 +726,9 @@ public final class DayEdgeTest {
         x.go(1);
         Due.is("pour(1) a mile off", x.pour(1), Due.NOT);
         Due.is("told(12)", x.told(12), 1);
+        x.goal(-1);
+        Due.is("pour(1) a mile off, on its way home", x.pour(1), Due.NOT);
+        x.goal(1);
         x.go(1);
         Due.is("pour(1) at a LIGHT that stands at the harbour", x.pour(1), 1);
         x.goal(0);

@@ -160,14 +160,16 @@ public final class RefusalTest {
         Due.sentence("pour: NOT: it is not there");
         for (int n : new int[] {0, 1, 999}) {
             refused("pour(" + n + ") at sea", x -> x.pour(n), Due.NOT);
-            Due.refused(RefusalTest::aMileOff, "pour(" + n + ") a mile off", x -> x.pour(n), Due.NOT);
+            Due.refused(() -> aMileOff(0), "pour(" + n + ") a mile off", x -> x.pour(n), Due.NOT);
+            Due.refused(() -> aMileOff(-1), "pour(" + n + ") a mile off, on its way home", x -> x.pour(n), Due.NOT);
         }
     }
 
-    private static Counted aMileOff() {
+    private static Counted aMileOff(int goal) {
         Counted x = Due.of("boat 1 40;light plain 9 1 9 1;");
         x.goal(0);
         x.go(1);
+        x.goal(goal);
         return x;
     }
 

@@ -61,9 +61,10 @@ public final class TriedEdgeTest {
 
     private static void roundHarmFirst() {
         Due.sentence("the row by which HARM grows least, though BREACHES are more");
-        // light 1 was dark, light 0 is dark from now on: oil for one of them
-        Counted x = Due.of("boat 10 10;barrel 10;night 10;light plain 1 10 10 5;light plain 1 10 9 4;light plain 1 0 0 0;");
-        x.go(1);
+        // both are dry, and light 1 was dark last night: oil for one of them
+        Counted x = Due.of("boat 10 10;barrel 10;night 10;light plain 1 10 20 5;light plain 1 10 10 4;");
+        x.go(2);
+        Due.is("light(0, 5)", x.light(0, 5), 0);
         Due.is("light(1, 7)", x.light(1, 7), 1);
         round(x, 1, 4, 1, 0);
     }
