@@ -20,6 +20,7 @@ public final class BrigEdgeTest {
         judgedDays();
         judgedAsItWas();
         judgedFortyDays();
+        judgedNine();
         judgedAnew();
         booksAndImages();
         Due.end("BrigEdgeTest");
@@ -347,6 +348,26 @@ public final class BrigEdgeTest {
         x.write(0, 98);
         x.write(0, 98);
         Due.is("judge(0): written when all is over", x.judge(0), 1);
+    }
+
+    private static void judgedNine() {
+        Due.sentence("THE BOOK of a LIGHT: the first and the last of nine have pages of their own");
+        StringBuilder nine = new StringBuilder("night 10;");
+        for (int l = 0; l < 9; l++) {
+            nine.append("light plain 5 ").append(l + 1).append(" 99 1;");
+        }
+        Counted x = Due.of(nine.toString());
+        for (int day = 0; day < 6; day++) {
+            for (int l = 0; l < 9; l++) {
+                x.write(l, 99 - (l + 1) * (day + 1) + (day == 5 ? 1 : 0));
+            }
+        }
+        for (int day = 1; day <= 7; day++) {
+            x.go(1);
+            for (int l = 0; l < 9; l++) {
+                Due.is("judge(" + l + ") on DAY " + day, x.judge(l), day < 6 ? -1 : 5);
+            }
+        }
     }
 
     private static void judgedAnew() {

@@ -15,6 +15,7 @@ public final class TextEdgeTest {
         reefStartsOver();
         reefKeepsSkiesAndSeed();
         reefOfFewerLights();
+        reefOfNothingAhead();
         reefWithFault();
         skiesFromDayZero();
         skiesOfNothing();
@@ -307,6 +308,28 @@ public final class TextEdgeTest {
         Due.reef(x, REEF);
         Due.is("light(2, 6)", x.light(2, 6), 0);
         Due.is("tear(2)", x.tear(2), 0);
+    }
+
+    private static void reefOfNothingAhead() {
+        Due.sentence("Promise 3: LIGHTS of a reef ahead are not burnt, dark, given up, reached or out, however many there were");
+        Counted x = Due.of("light plain 3 99 0 99;".repeat(9));
+        x.go(1);
+        for (int lights = 3; lights >= 0; lights--) {
+            for (int time = 1; time <= 2; time++) {
+                Due.is("reef() of " + lights, Due.reef(x, "boat 3 9;night 10;" + "light plain 6 10 15 1;".repeat(lights)), lights);
+                int all = (1 << lights) - 1;
+                Due.is("go(1)", x.go(1), 0);
+                Due.is("told(11)", x.told(11), 10 * lights);
+                Due.is("round(1, 0): all but none are dark", x.round(1, 0), lights);
+                Due.is("darken of enough", x.darken(10 * lights, 1), 0);
+                Due.is("darken(0, 1)", x.darken(0, 1), all);
+                Due.is("go(1)", x.go(1), all);
+                Due.is("told(6)", x.told(6), lights);
+                Due.is("told(11)", x.told(11), 15 * lights);
+                Due.is("out(1, 0, 2)", x.out(1, 0, 2), lights == 0 ? -1 : all);
+                Due.is("told(7)", x.told(7), 0);
+            }
+        }
     }
 
     private static Counted lived() {
