@@ -1,5 +1,11 @@
 import java.lang.management.ManagementFactory;
+import java.lang.reflect.Array;
+import java.lang.reflect.Field;
+import java.lang.reflect.Modifier;
+import java.util.Collections;
+import java.util.IdentityHashMap;
 import java.util.Random;
+import java.util.Set;
 
 /** All calls of a run live in one room: calls make nothing, new objects are small; and no call ever throws. */
 public final class RoomTest {
@@ -7,7 +13,7 @@ public final class RoomTest {
         + "light plain 99 9 999 9;light double 88 9 999 9;light leaky 77 9 999 9;light floating 66 0 999 9;light gas 55 9 9 9;"
         + "light plain 44 0 999 9;light plain 33 9 99 9;light plain 22 9 99 9;light leaky 11 9 99 9;";
 
-    public static void main(String[] args) {
+    public static void main(String[] args) throws Exception {
         newObjects();
         dearestCalls();
         wildCalls();
@@ -18,7 +24,7 @@ public final class RoomTest {
         return ((com.sun.management.ThreadMXBean) ManagementFactory.getThreadMXBean()).getThreadAllocatedBytes(Thread.currentThread().getId());
     }
 
-    private static void newObjects() {
+    private static void newObjects() throws IllegalAccessException {
         new ReefLights();
         long before = made();
         for (int i = 0; i < 100; i++) {
@@ -26,31 +32,84 @@ public final class RoomTest {
         }
         long each = (made() - before) / 100;
         Due.is("bytes of a new object are below 20000 (" + each + ")", each < 20000 ? 1 : 0, 1);
+        Set<Object> seen = Collections.newSetFromMap(new IdentityHashMap<>());
+        long parts = count(new ReefLights(), seen);
+        // the room has 600,000 objects and 7.3 million fields and elements: a thousand of ours take less than half
+        Due.is("objects and arrays of a new object are below 150 (" + seen.size() + ")", seen.size() < 150 ? 1 : 0, 1);
+        Due.is("fields and elements of a new object are below 3650 (" + parts + ")", parts < 3650 ? 1 : 0, 1);
+    }
+
+    /** Fields and elements of all that hangs on an object; each object is counted once. */
+    private static long count(Object o, Set<Object> seen) throws IllegalAccessException {
+        if (o == null || !seen.add(o)) {
+            return 0;
+        }
+        long parts = 0;
+        if (o.getClass().isArray()) {
+            parts = Array.getLength(o);
+            for (int i = 0; i < Array.getLength(o) && !o.getClass().getComponentType().isPrimitive(); i++) {
+                parts += count(Array.get(o, i), seen);
+            }
+            return parts;
+        }
+        for (Field f : o.getClass().getDeclaredFields()) {
+            if (!Modifier.isStatic(f.getModifiers())) {
+                parts++;
+                f.setAccessible(true);
+                parts += f.getType().isPrimitive() ? 0 : count(f.get(o), seen);
+            }
+        }
+        return parts;
     }
 
     private static void dearestCalls() {
-        Counted x = Due.of(NINE, "rough 5;fine 9;ice 3;");
-        callEach(x, 3);
+        Counted x = new Counted();
+        long[] reef = packed(NINE);
+        long[] skies = packed("rough 5; fine 9; ice 3; rough 1;");
+        callEach(x, reef, skies);
         long before = made();
-        for (int i = 0; i < 8; i++) {
-            callEach(x, i);
+        long byMeasuring = made() - before;
+        before = made();
+        for (int i = 0; i < 4; i++) {
+            callEach(x, reef, skies);
         }
-        long each = (made() - before) / 8;
-        Due.is("bytes that some thirty calls make are below 200 (" + each + ")", each < 200 ? 1 : 0, 1);
+        long all = made() - before - byMeasuring;
+        // one smallest object in each of the four rows would be 64 bytes
+        Due.is("bytes that four rows of all calls make are below 64 (" + all + ")", all < 64 ? 1 : 0, 1);
+        // these calls are dear only if the reef and the skies were taken
+        Due.is("lights of the dear calls", x.told(0), 9);
+        Due.is("days of skies of the dear calls", x.told(10), 18);
     }
 
-    private static void callEach(Counted x, int i) {
-        x.feed(8, 0x6261727265_6c2039L);
-        x.feed(1, ';');
+    /** Longs of eight bytes, filled up with blanks: made ahead, so that nothing but the program is measured. */
+    private static long[] packed(String text) {
+        long[] row = new long[(text.length() + 7) / 8];
+        for (int i = 0; i < 8 * row.length; i++) {
+            row[i / 8] = row[i / 8] << 8 | (i < text.length() ? text.charAt(i) : ' ');
+        }
+        return row;
+    }
+
+    private static void callEach(Counted x, long[] reef, long[] skies) {
+        for (long bytes : reef) {
+            x.feed(8, bytes);
+        }
         x.reef();
-        x.feed(8, 0x69636520_39392020L);
+        for (long bytes : skies) {
+            x.feed(8, bytes);
+        }
         x.skies();
-        x.goal(i % 9);
-        x.wick(i % 9, true);
+        x.feed(8, skies[0]);
+        x.feed(1, '?');
+        x.reef();
+        x.fault();
+        x.wick(8, true);
         x.go(20);
+        x.goal(8);
         x.drift(20);
+        x.begin();
         x.pour(5);
-        x.round(4, 0);
+        x.round(4, 5);
         x.darken(500, 99);
         x.lasts(5);
         x.late(5);
@@ -61,13 +120,14 @@ public final class RoomTest {
         x.write(3, 4);
         x.judge(3);
         x.tear(3);
+        x.seed(5);
         x.keep(1);
         x.goBack(1);
         x.forget();
-        x.begin();
-        for (int what = 0; what < 16; what++) {
-            x.told(what);
-        }
+        x.light(8, 5);
+        x.sky(17);
+        x.odds(2, 2);
+        x.told(3);
     }
 
     private static int wild(Random random) {
